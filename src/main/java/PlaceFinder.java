@@ -779,7 +779,7 @@ public final class PlaceFinder {
     }
   }
 
-  /** A condition never changes, so that watches can share it; its word is empty if it takes none. */
+  /** Never changes, so that watches can share it; its word is empty if it takes none. */
   private static final class Condition {
     final int kind;
     final int a;
@@ -875,7 +875,7 @@ public final class PlaceFinder {
       return isFound && (whole < square || (whole == square && rest == 0));
     }
 
-    /** By side, then by the part of it (which is below 2 to the 32nd); 0 for all without a route. */
+    /** By side, then by the part of it, which needs fewer than 32 bits; 0 without a route. */
     long positionKey() {
       return isFound ? ((long) side << 32) + along : 0;
     }

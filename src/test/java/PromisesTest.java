@@ -195,6 +195,9 @@ public final class PromisesTest {
     corners(x, 0, 0, 4, 4, 4, 0, 0, 4);
     Check.refused("4: a bow whose surfaces make up for each other", ARGUMENT, () -> x.shape(2, 0));
     x.route();
+    corners(x, 1, 0, 2, 1, 3, 2, 4, 3);
+    Check.refused("4: straight on, beside 0, 0", ARGUMENT, () -> x.shape(2, 0));
+    x.route();
     corners(x, 0, 4095, 4095, 4095, 4095, 0, 0, 0, 0, 1, 1, 1, 1, 2, 0, 2);
     x.shape(2, 0);
     Check.due("4: eight corners, the other way round", 1, () -> x.holds(2, 4095, 17, 0));
@@ -505,6 +508,18 @@ public final class PromisesTest {
     name(y, 1, "qua", 0, 9);
     name(y, 2, "ga", 0, 9);
     Check.due("12, 1: folded", "[0, 2, 1]", () -> found(y, 0, 1));
+    PlaceFinder sounds = withPoints(0, 0, 0, 0);
+    name(sounds, 0, "rat", 0, 9);
+    name(sounds, 0, "a", 0, 9);
+    name(sounds, 1, "radi", 0, 9);
+    nameCondition(sounds, 3, 0, "rot");
+    Check.due("12, 1: a sound is a name condition too", "[1, 0]", () -> found(sounds, 0, 1));
+    PlaceFinder edges = withPoints(0, 0, 0, 0, 0, 0, 0, 0);
+    name(edges, 0, "zyzyzyzyzy", 0, 9);
+    name(edges, 1, "b", 0, 9);
+    name(edges, 2, "azyzyzyzyz", 0, 9);
+    name(edges, 3, "a", 0, 9);
+    Check.due("12, 1: the last letters", "[3, 2, 1, 0]", () -> found(edges, 0, 1));
     PlaceFinder z = withPoints(0, 0, 0, 0);
     name(z, 0, "abababababab", 0, 9);
     name(z, 1, "ababababa", 0, 9);
@@ -521,6 +536,9 @@ public final class PromisesTest {
     x.condition(7, 5, 6, 100);
     x.condition(7, 0, 0, 100);
     Check.due("12, 2: to the point of the first circle", "[0, 1, 3, 2]", () -> found(x, 1, 2));
+    x.clear();
+    x.condition(7, 0, 7, 100);
+    Check.due("12, 2: a circle alone", "[2, 1, 0, 3]", () -> found(x, 1, 2));
     PlaceFinder y = withPoints(3, 4, 5, 0, 0, 5, 4, 3, 0, 0);
     Check.due("12, 2: equal ones by number", "[4, 0, 1, 2, 3]", () -> found(y, 0, 2));
   }
@@ -542,6 +560,12 @@ public final class PromisesTest {
     PlaceFinder z = withPoints(4095, 4094, 4094, 4093, 0, 0);
     route(z, 0, 0, 0, 0, 4095, 4095);
     Check.due("12, 3: a side of no length, fractions exactly", "[2, 1, 0]", () -> found(z, 0, 3));
+    PlaceFinder steps = withPoints(6, 23, 8, 15, 10, 10, 12, 11);
+    route(steps, 10, 10, 12, 11);
+    Check.due("12, 3: the smallest fractions", "[2, 1, 0, 3]", () -> found(steps, 0, 3));
+    PlaceFinder shortest = withPoints(1, 0, 0, 0);
+    route(shortest, 0, 0, 1, 0);
+    Check.due("12, 3: the shortest side", "[1, 0]", () -> found(shortest, 0, 3));
     PlaceFinder crossing = withPoints(5, 5, 5, 0);
     route(crossing, 5, 0, 5, 10, 0, 5, 10, 5);
     Check.due("12, 3: where it crosses itself, the first time", "[1, 0]", () -> found(crossing, 0, 3));
@@ -550,6 +574,9 @@ public final class PromisesTest {
     PlaceFinder narrow = withPoints(46, 25, 54, 21);
     route(narrow, 58, 8, 37, 35, 54, 21, 19, 34);
     Check.due("12, 3: the nearer side exactly", "[1, 0]", () -> found(narrow, 0, 3));
+    PlaceFinder narrowBack = withPoints(46, 25, 54, 21);
+    route(narrowBack, 19, 34, 54, 21, 37, 35, 58, 8);
+    Check.due("12, 3: the nearer side exactly, the other way", "[0, 1]", () -> found(narrowBack, 0, 3));
     PlaceFinder wide = withPoints(2316, 2569, 2866, 3714);
     route(wide, 3091, 2979, 154, 184, 2866, 3714, 1957, 595);
     Check.due("12, 3: the nearer side far away", "[1, 0]", () -> found(wide, 0, 3));
@@ -626,6 +653,11 @@ public final class PromisesTest {
     for (int[] p : outside) {
       Check.due("16: outside " + p[0] + ", " + p[1], 0, () -> x.holds(0, p[0], p[1], 5));
     }
+    PlaceFinder tilted = withPlaces(1);
+    shape(tilted, 0, 0, 9, 1, 7, 9, 1, 3);
+    Check.due("16: left of the first side", 1, () -> tilted.holds(0, 7, 7, 0));
+    Check.due("16: on the first side", 1, () -> tilted.holds(0, 8, 5, 0));
+    Check.due("16: right of the first side", 0, () -> tilted.holds(0, 9, 5, 0));
     Check.due("16: no shape yet", -1, () -> x.holds(0, 0, 0, 4));
     Check.due("16: a point is no area", -1, () -> x.holds(0, 4, 4, 8));
     Check.due("16: no shape at all", -1, () -> x.holds(1, 0, 0, 0));
