@@ -40,7 +40,9 @@ public final class PlaceFinder {
 
   private static final char NO_LETTER = 0;
   /** Above the rank of every word, so that places without a name come last. */
-  private static final long NO_NAME = Long.MAX_VALUE;
+  private static final long NO_NAME = 1L << 60;
+  /** Above the square of every distance between two points. */
+  private static final int NO_SQUARE = 1 << 30;
   /** The classes of the letters a to z. */
   private static final String SOUND_CLASSES = "01230120022455012623010202";
   private static final int MOST_SIGNS = 4;
@@ -523,7 +525,7 @@ public final class PlaceFinder {
 
     /** The square of the distance from the nearest corner. */
     int squareTo(int x, int y) {
-      int least = Integer.MAX_VALUE;
+      int least = NO_SQUARE;
       for (int i = 0; i < size; i++) {
         least = Math.min(least, squareFrom(i, x, y));
       }
@@ -756,7 +758,7 @@ public final class PlaceFinder {
     /** The square of the distance from where the place stands, if it has a shape. */
     int squareTo(int x, int y, int day) {
       Corners shape = shapeOn(day);
-      return shape == null ? Integer.MAX_VALUE : shape.squareTo(x, y);
+      return shape == null ? NO_SQUARE : shape.squareTo(x, y);
     }
 
     boolean isLinkedWithin(int from, int to) {
